@@ -79,27 +79,27 @@ public final class RestMill {
 
     private final byte[] input;
     private int inputLength;
-    private final Tokens tokens;
     private final Mill mill;
     private final Mill draft;
     private final Mill saved;
     private boolean hasSaved;
     private final Changes changes;
-    private final Program program;
     private final SetupReader setupReader;
     private final ScriptReader scriptReader;
+    private int lastError;
+    private int lastErrorOffset;
     private final StringBuilder output;
 
     public RestMill() {
         input = new byte[INPUT_SIZE];
-        tokens = new Tokens();
         mill = new Mill();
         draft = new Mill();
         saved = new Mill();
         changes = new Changes();
-        program = new Program();
-        setupReader = new SetupReader(tokens);
-        scriptReader = new ScriptReader(tokens, program);
+        setupReader = new SetupReader();
+        scriptReader = new ScriptReader();
+        lastError = NO_ERROR;
+        lastErrorOffset = -1;
         output = new StringBuilder();
         mill.moduli.insert(7);
         mill.moduli.insert(11);
@@ -128,9 +128,10 @@ public final class RestMill {
     }
 
     public int loadMill() {
-        tokens.read(input, inputLength);
-        inputLength = 0;
-        if (!setupReader.readSetup(draft)) {
+        setupReader.tokens.read(input, inputLength);
+        boolean isRead = setupReader.readSetup(draft);
+        endText(setupReader.tokens);
+        if (!isRead) {
             return -1;
         }
         mill.copyFrom(draft);
@@ -140,22 +141,23 @@ public final class RestMill {
     }
 
     public int playScript() {
-        tokens.read(input, inputLength);
-        inputLength = 0;
-        if (!scriptReader.readScript(mill)) {
+        scriptReader.tokens.read(input, inputLength);
+        boolean isRead = scriptReader.readScript(mill);
+        endText(scriptReader.tokens);
+        if (!isRead) {
             return -1;
         }
         changes.prepare(mill);
         changes.keep();
-        return program.play(mill);
+        return scriptReader.program.play(mill);
     }
 
     public int errorCode() {
-        return tokens.error;
+        return lastError;
     }
 
     public int errorOffset() {
-        return tokens.errorAt;
+        return lastErrorOffset;
     }
 
     public int count(int what) throws IllegalArgumentException {
@@ -513,6 +515,12 @@ public final class RestMill {
                 inputLength++;
             }
         }
+    }
+
+    private void endText(Tokens tokens) {
+        inputLength = 0;
+        lastError = tokens.error;
+        lastErrorOffset = tokens.errorOffset;
     }
 
     private void needRegister(int register) {
@@ -1055,7 +1063,7 @@ public final class RestMill {
         private int size;
         private int now;
         int error;
-        int errorAt;
+        int errorOffset;
 
         Tokens() {
             // Each byte may be a token, and the end is one more.
@@ -1063,14 +1071,14 @@ public final class RestMill {
             amounts = new int[INPUT_SIZE + 1];
             offsets = new int[INPUT_SIZE + 1];
             error = NO_ERROR;
-            errorAt = -1;
+            errorOffset = -1;
         }
 
         void read(byte[] text, int length) {
             size = 0;
             now = 0;
             error = NO_ERROR;
-            errorAt = -1;
+            errorOffset = -1;
             int at = 0;
             for (int round = 0; round < INPUT_SIZE && at < length; round++) {
                 at = readToken(text, at, length);
@@ -1116,7 +1124,7 @@ public final class RestMill {
         /** Reports an error at the present token; false, so that a reader can hand it on. */
         boolean fail(int code) {
             error = code;
-            errorAt = now < 0 || now >= offsets.length ? 0 : offsets[now];
+            errorOffset = now < 0 || now >= offsets.length ? 0 : offsets[now];
             return false;
         }
 
@@ -1221,10 +1229,10 @@ public final class RestMill {
 
     /** Reads a setup into a mill that nobody asks until the setup has proved right. */
     private static final class SetupReader {
-        private final Tokens tokens;
+        final Tokens tokens;
 
-        SetupReader(Tokens tokens) {
-            this.tokens = tokens;
+        SetupReader() {
+            tokens = new Tokens();
         }
 
         boolean readSetup(Mill draft) {
@@ -1292,14 +1300,17 @@ public final class RestMill {
             // One round more than there are registers: it meets the end or a register set again.
             for (int k = 0; k <= REGISTERS && tokens.kind() == WORD_SET; k++) {
                 tokens.move();
+                if (tokens.kind() != REGISTER) {
+                    return tokens.fail(SYNTAX);
+                }
                 int bit = 1 << tokens.amount();
-                if (tokens.kind() == REGISTER && (known & bit) != 0) {
+                if ((known & bit) != 0) {
                     return tokens.fail(REPEATED);
                 }
+                known |= bit;
                 if (!readSet(draft)) {
                     return false;
                 }
-                known |= bit;
             }
             return tokens.take(END);
         }
@@ -1324,37 +1335,30 @@ public final class RestMill {
 
     /** Reads a script into a program; expressions get their steps in the order of the work. */
     private static final class ScriptReader {
-        private final Tokens tokens;
-        private final Program program;
+        final Tokens tokens;
+        final Program program;
         private int moduli;
         private long half;
 
-        ScriptReader(Tokens tokens, Program program) {
-            this.tokens = tokens;
-            this.program = program;
+        ScriptReader() {
+            tokens = new Tokens();
+            program = new Program();
         }
 
         boolean readScript(Mill mill) {
             program.clear();
             moduli = mill.moduli.size;
             half = mill.moduli.half();
-            // One round more than there may be statements, for the end or the statement too many.
-            for (int k = 0; k <= MOST_STATEMENTS; k++) {
+            for (int k = 0; k < MOST_STATEMENTS; k++) {
                 if (tokens.kind() == END) {
                     return true;
-                }
-                if (!startsStatement(tokens.kind())) {
-                    return tokens.fail(SYNTAX);
-                }
-                if (k >= MOST_STATEMENTS) {
-                    return tokens.fail(TOO_MANY);
                 }
                 boolean isRead = tokens.kind() == REGISTER ? readGive() : readOrder();
                 if (!isRead || !tokens.take(';')) {
                     return false;
                 }
             }
-            return false;
+            return startsStatement(tokens.kind()) ? tokens.fail(TOO_MANY) : tokens.take(END);
         }
 
         private static boolean startsStatement(int kind) {
@@ -1364,6 +1368,9 @@ public final class RestMill {
 
         private boolean readOrder() {
             int kind = tokens.kind();
+            if (!startsStatement(kind)) {
+                return tokens.fail(SYNTAX);
+            }
             tokens.move();
             int first = tokens.amount();
             if (kind == WORD_STRICT) {
