@@ -197,6 +197,13 @@ public final class PromisesTest {
         dueSetupError("  ", RestMill.SYNTAX, 2);
         dueSetupError("modul 7 11;", RestMill.SYNTAX, 0);
         dueSetupError("modulis 7 11;", RestMill.SYNTAX, 0);
+        dueSetupError("moduliz 7 11;", RestMill.SYNTAX, 0);
+        dueSetupError("noduli 7 11;", RestMill.SYNTAX, 0);
+        dueSetupError("moduli 7 11; checkz 1;", RestMill.SYNTAX, 13);
+        dueSetupError("moduli 7 11; xtrict 1;", RestMill.SYNTAX, 13);
+        dueSetupError("moduli 7 11; bet a 1;", RestMill.SYNTAX, 13);
+        dueSetupError("moduli 7 11;set a 1;set b 1;set c 1;set d 1;set e 1;set f 1;set g 1;set h 1;set c 1;",
+                RestMill.REPEATED, 80);
         dueSetupError(" Moduli 7 11;", RestMill.SYNTAX, 1);
         dueSetupError("moduli", RestMill.SYNTAX, 6);
         dueSetupError("moduli a 11;", RestMill.SYNTAX, 7);
@@ -311,6 +318,12 @@ public final class PromisesTest {
         dueScriptError(twenty + " mend", RestMill.TOO_MANY, 81);
         dueScriptError(twenty + "i", RestMill.SYNTAX, 80);
         dueScriptError(twenty + ";", RestMill.SYNTAX, 80);
+        String longest = "a=1" + "-1".repeat(248);
+        dueScriptError(longest + ",", RestMill.SYNTAX, 499);
+        dueScriptError(longest + " ", RestMill.SYNTAX, 500);
+        RestMill x = new RestMill();
+        due(5, "500 tokens", play(x, longest + ";"), 1);
+        due(5, "their sum", x.number(0), -247);
         due(5, "20 statements", play(new RestMill(), twenty + " "), 20);
         due(5, "six open", play(new RestMill(), "a=-----(1)-(-1)+((((((2))))))-1-1*-1;"), 1);
     }
@@ -392,6 +405,11 @@ public final class PromisesTest {
         for (int what = 0; what < want.length; what++) {
             due(8, "count(" + what + ")", x.count(what), want[what]);
         }
+        RestMill first = made("moduli 7 11; set a - 1;");
+        due(8, "count(4) of the first alone not 0", first.count(4), 7);
+        due(8, "count(5) of the first alone below 0", first.count(5), 1);
+        first.setStrict(1);
+        due(8, "count(3) of all sound", first.count(3), 8);
         for (int what : new int[] {-1, 7, Integer.MIN_VALUE, Integer.MAX_VALUE}) {
             dueThrow(8, "count(" + what + ")", ARGUMENT, () -> x.count(what));
         }
@@ -492,6 +510,11 @@ public final class PromisesTest {
         due(15, "digit(0, 3)", x.digit(0, 3), 0);
         due(17, "rank of 0", x.rank(7), 0);
         due(19, "number(1)", x.number(1), -1);
+        RestMill whole = made("moduli 3 5; set a 7; set b - 7;");
+        due(19, "WHOLE less 1 by 2", whole.number(0), 7);
+        due(18, "its VALUE", whole.value(0), 7);
+        due(19, "WHOLE plus 1 by 2", whole.number(1), -7);
+        due(18, "its VALUE", whole.value(1), 8);
         due(19, "number(2)", x.number(2), -157);
         due(19, "number(3)", x.number(3), 157);
         due(20, "isSound(2)", x.isSound(2) ? 1 : 0, 1);
@@ -722,6 +745,9 @@ public final class PromisesTest {
         due(31, "greatest of zeros", new RestMill().greatest(), 0);
         w.set(7, 10);
         due(31, "greatest at the end", w.greatest(), 7);
+        w.set(1, -11);
+        due(31, "greatest in the second register", w.greatest(), 1);
+        w.set(1, 0);
         w.set(0, -11);
         due(31, "greatest below 0", w.greatest(), 0);
         due(32, "mean", Double.compare(w.mean(), (-11 - 9 + 9 + 8 + 10) / 8.0) == 0 ? 1 : 0, 1);
@@ -919,6 +945,39 @@ public final class PromisesTest {
         dueText(43, "all back", w.undo() + moduli(w) + w.undo() + w.number(0) + w.undo() + w.count(2), "27 11 13?10" + "00");
     }
 
+    private static void dueUndo(String what, RestMill x, String before, long changed) {
+        due(43, what + " is a change", x.count(6), changed);
+        x.undo();
+        dueText(43, "state after undo of " + what, state(x), before);
+    }
+
+    private static void undoOfEach() {
+        RestMill x = made("moduli 7 11 13; checks 1; set a 25; set b - 10; set c 3;");
+        String before = state(x);
+        x.set(0, 1);
+        dueUndo("set", x, before, 1);
+        x.operate(2, 0, 0, 1);
+        dueUndo("operate", x, before, 1);
+        x.scale(0, 0);
+        dueUndo("scale", x, before, 1);
+        x.swap(0, 1);
+        dueUndo("swap", x, before, 1);
+        x.setStrict(1);
+        dueUndo("setStrict", x, before, 1);
+        x.grow(2);
+        dueUndo("grow", x, before, 1);
+        x.drop(1);
+        dueUndo("drop", x, before, 1);
+        play(x, "a = b * c; swap a b; strict 1;");
+        dueUndo("a script", x, before, 1);
+        x.hurt(2, 1, 0);
+        dueUndo("hurt", x, before, 1);
+        x.hurt(2, 1, 0);
+        before = state(x);
+        x.mend(2);
+        dueUndo("mend", x, before, 2);
+    }
+
     private static void prints() {
         RestMill x = made("moduli 7 11 13; checks 2; set b - 3; set c 1;");
         due(44, "printRegister(1)", x.printRegister(1), 13);
@@ -991,6 +1050,7 @@ public final class PromisesTest {
         changes();
         comeAndGo();
         undoes();
+        undoOfEach();
         prints();
         states();
         System.out.println(asked + " answers, " + wrong + " not as due");

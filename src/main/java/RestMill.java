@@ -1317,9 +1317,7 @@ public final class RestMill {
 
         private boolean readSet(Mill draft) {
             int register = tokens.amount();
-            if (!tokens.take(REGISTER)) {
-                return false;
-            }
+            tokens.move();
             boolean isNegative = tokens.kind() == '-';
             if (isNegative) {
                 tokens.move();
