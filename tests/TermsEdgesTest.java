@@ -459,6 +459,16 @@ public final class TermsEdgesTest extends Sentences {
         due("all accounts", accountsOf(x), "0 2 3 2 2 1 0 0 ");
     }
 
+    private static void refusedLeavesNothingPending() {
+        RestMill x = made(ONE_CHECK);
+        for (int k = 0; k < 40; k++) {
+            due("a sum refused in its midst", play(x, "a = 1 - (2 * (3 - (4 + 5 * (6 - 7 / 0))));"), 0);
+        }
+        due("the same without the 0", play(x, "a = 1 - (2 * (3 - (4 + 5 * (6 - 7 / 7))));"), 1);
+        due("its number", x.number(0), 53);
+        due("the account", x.account(1), 40);
+    }
+
     private static void refusedIfNotSound() {
         RestMill x = made(ONE_CHECK);
         x.set(0, 38);
@@ -952,6 +962,7 @@ public final class TermsEdgesTest extends Sentences {
         sentence("section 3", "4 moduli cannot be so", TermsEdgesTest::moduliCannotBe);
         sentence("section 3", "5 a number does not fit", TermsEdgesTest::doesNotFit);
         sentence("section 3", "What is refused changes nothing but the accounts", TermsEdgesTest::refusedChangesNothing);
+        sentence("section 3", "What is refused changes nothing", TermsEdgesTest::refusedLeavesNothingPending);
         sentence("section 3", "another rest with which it would be sound; a sound one has none", TermsEdgesTest::faultsOfUnsoundOnes);
         sentence("section 3", "for the modulus with the smallest number among its faults", TermsEdgesTest::mendedByTheFirstFault);
         sentence("section 3", "its rest becomes the least one with which it is sound", TermsEdgesTest::mendedByTheLeastRest);

@@ -314,6 +314,43 @@ public final class TextEdgesTest extends Sentences {
         }
     }
 
+    private static String withOtherLetter(String word, int at) {
+        return word.substring(0, at) + (word.charAt(at) == 'z' ? 'y' : 'z') + word.substring(at + 1);
+    }
+
+    private static void wordsOfEachLetter() {
+        String[][] setups = {{"", "moduli", " 7 11;"}, {"moduli 7 11;", "checks", " 1;"}, {"moduli 7 11;", "strict", " 1;"},
+            {"moduli 7 11;", "set", " a 1;"}};
+        String[][] scripts = {{"", "scale", " a 0;"}, {"a = 1;", "swap", " a b;"}, {"", "mend", " a;"}, {"", "strict", " 1;"}};
+        for (String[] one : setups) {
+            dueLoaded(one[0] + one[1] + one[2], 2);
+            for (int at = 0; at < one[1].length(); at++) {
+                dueSetupError(one[0] + withOtherLetter(one[1], at) + one[2], SYNTAX, one[0].length());
+            }
+        }
+        for (String[] one : scripts) {
+            for (int at = 0; at < one[1].length(); at++) {
+                dueScriptError(one[0] + withOtherLetter(one[1], at) + one[2], SYNTAX, one[0].length());
+            }
+        }
+    }
+
+    private static void statementsDo() {
+        RestMill x = made("moduli 7 11 13; checks 1; set a 25; set b - 7;");
+        due("swap", play(x, "swap a b;"), 1);
+        due("the numbers", numbersOf(x), "-7 25 0 0 0 0 0 0 ");
+        due("scale", play(x, "scale b 1;"), 1);
+        due("the numbers then", numbersOf(x), "-7 2 0 0 0 0 0 0 ");
+        due("a sum", play(x, "h = a + b;"), 1);
+        due("its number", x.number(7), -5);
+        due("strict", play(x, "strict 1;"), 1);
+        due("STRICT", x.count(2), 1);
+        due("strict again", play(x, "strict 0;"), 1);
+        due("STRICT then", x.count(2), 0);
+        due("mend", play(x, "c = 38 + 1; mend c;"), 2);
+        due("its number then", x.number(2), -38);
+    }
+
     private static void maximalWords() {
         dueSetupError("modul i 7 11;", SYNTAX, 0);
         dueSetupError("modulis 7 11;", SYNTAX, 0);
@@ -720,6 +757,30 @@ public final class TextEdgesTest extends Sentences {
         due("truncateInput(6)", x.truncateInput(6), true);
         due("playScript()", x.playScript(), 1);
         due("number(1)", x.number(1), 0);
+        String[] texts = {"a = 39", "swap ab", "a = 1;;", "a = 1;&"};
+        for (String text : texts) {
+            RestMill y = new RestMill();
+            feed(y, text);
+            due("truncateInput() of '" + text + "'", y.truncateInput(text.length() - 1), true);
+            boolean isWhole = text.charAt(text.length() - 2) == ';';
+            due("playScript() of it", y.playScript(), isWhole ? 1 : -1);
+            due("its error", y.errorCode(), isWhole ? RestMill.NO_ERROR : SYNTAX);
+            due("its offset", y.errorOffset(), isWhole ? -1 : text.length() - 1);
+        }
+        RestMill z = new RestMill();
+        feed(z, "moduli 7 11; set a 1;");
+        z.truncateInput(12);
+        due("loadMill() of the first part", z.loadMill(), 2);
+        due("number(0)", z.number(0), 0);
+    }
+
+    private static void appendedBehindWhatIsLeft() {
+        RestMill x = new RestMill();
+        feed(x, "a = 1; b = 2;       ");
+        x.truncateInput(3);
+        due("appendInput()", x.appendInput(0x20333b20, 0x20202020, 0x20202020, 0x20202020, 0x20202020), 23);
+        due("playScript()", x.playScript(), 1);
+        due("number(0)", x.number(0), 3);
     }
 
     private static void loadedModuli() {
@@ -874,6 +935,7 @@ public final class TextEdgesTest extends Sentences {
         sentence("section 4", "\"set\" gives a register a NUMBER", TextEdgesTest::setGivesNumber);
         sentence("section 4", "script    = { statement \";\" }", TextEdgesTest::scriptForm);
         sentence("section 4", "statement = R \"=\" sum | \"scale\" R N | \"swap\" R R | \"mend\" R | \"strict\" N", TextEdgesTest::statementForm);
+        sentence("section 4", "\"scale\" R N | \"swap\" R R | \"mend\" R | \"strict\" N", TextEdgesTest::statementsDo);
         sentence("section 4", "product   = factor { ( \"*\" | \"/\" | \"%\" ) factor }", TextEdgesTest::productForm);
         sentence("section 4", "factor    = N | R | \"-\" factor | \"(\" sum \")\"", TextEdgesTest::factorForm);
         sentence("section 4", "sum       = product { ( \"+\" | \"-\" ) product }", TextEdgesTest::sumForm);
@@ -882,6 +944,7 @@ public final class TextEdgesTest extends Sentences {
         sentence("section 4", "\"-\" ahead of a factor the difference of 0 and it", TextEdgesTest::minusAheadOfFactor);
         sentence("section 4", "A sum or a product is worked out from the left", TextEdgesTest::workedOutFromTheLeft);
         sentence("section 4", "Tokens are words (maximal runs of the letters a to z)", TextEdgesTest::maximalWords);
+        sentence("section 4", "words (maximal runs of the letters a to z)", TextEdgesTest::wordsOfEachLetter);
         sentence("section 4", "numbers (maximal runs of digits, 1 to 9 of them, leading zeros counted)", TextEdgesTest::numbersOfNineDigits);
         sentence("section 4", "and the single bytes ; = + - * / % ( and )", TextEdgesTest::everyByteBetweenNumbers);
         sentence("section 4", "Spaces (32) and line feeds (10) may stand between tokens", TextEdgesTest::gapsBetweenTokens);
@@ -920,6 +983,7 @@ public final class TextEdgesTest extends Sentences {
         sentence("promise 2", "-1, with no change, if it would exceed 500", TextEdgesTest::noMoreThan500);
         sentence("promise 3", "false, with no change, if length is negative or greater than the current length", TextEdgesTest::truncatedWithin);
         sentence("promise 3", "Truncates the input buffer", TextEdgesTest::truncatedBytesAreGone);
+        sentence("promise 2", "Appends 20 bytes to the input buffer", TextEdgesTest::appendedBehindWhatIsLeft);
         sentence("promise 4", "Returns the number of moduli; -1 if there is an error", TextEdgesTest::loadedModuli);
         sentence("promise 4", "empties the buffer, whether the load succeeds or not", TextEdgesTest::emptiedByLoad);
         sentence("promise 5", "Plays a script from the input buffer and empties the buffer", TextEdgesTest::emptiedByPlay);
